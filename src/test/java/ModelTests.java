@@ -16,11 +16,14 @@ public final class ModelTests {
     private final AreaModel model = new AreaModel();
     private final List<String> log = new ArrayList<>();
     private final int style;
+    /** One TREE for the whole run, and more DRAWINGS of it than are kept. */
+    private final boolean isLongLived;
     private int calls = 0;
 
     private ModelTests(int seed) {
         random = new Random(seed);
         style = seed % 4;
+        isLongLived = seed % 8 > 4;
     }
 
     public static void main(String[] args) {
@@ -39,7 +42,7 @@ public final class ModelTests {
         while (calls < CALLS) {
             int pick = random.nextInt(100);
             boolean alike;
-            if (calls == 0 || pick < 2) {
+            if (calls == 0 || pick < (isLongLived ? 0 : 2) || model.count(0) == 0 && pick < 50) {
                 alike = tellTree(random.nextInt(5) == 0);
             } else if (pick < 10) {
                 alike = drawAndLook();
@@ -253,7 +256,8 @@ public final class ModelTests {
         } else if (pick < 57) {
             return same("moved(" + b + ")", setter.moved(b), model.moved(b));
         } else if (pick < 68) {
-            return pastCall(model.count(3) - 55 + random.nextInt(58), b, any(6));
+            int back = random.nextInt(4) == 0 ? 48 + random.nextInt(5) : random.nextInt(6);
+            return pastCall(model.count(3) - back, b, any(6));
         } else if (pick < 74) {
             return same("about(" + b + ", " + what + ")", setter.about(b, what), model.about(b, what));
         } else if (pick < 78) {
