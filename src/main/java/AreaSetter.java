@@ -866,7 +866,7 @@ public final class AreaSetter {
             return ahead[to] - ahead[from];
         }
 
-        /** Where ITEM i begins if a length is PARTED for the ITEMS from one on up to another one; that begins at its end. */
+        /** Where ITEM i begins if a length is PARTED for the ITEMS from one on up to another one (that: at the end). */
         int begin(int i, int length, int from, int to) {
             return i >= to ? length : share(length, sum(from, i), sum(from, to));
         }
@@ -898,11 +898,8 @@ public final class AreaSetter {
             int laid = SLICE;
             if (items.sum(0, items.many) == 0) {
                 layNothing(plans[SLICE]);
-            } else if (tree.how[group] == BEST) {
-                laid = layBest(drawings);
             } else {
-                laid = tree.how[group] == ROWS || tree.how[group] == CUTS ? tree.how[group] : SLICE;
-                layAs(laid);
+                laid = layAs(tree.how[group], drawings);
             }
             Plan plan = plans[laid];
             for (int i = 0; i < items.many; i++) {
@@ -922,19 +919,27 @@ public final class AreaSetter {
             drawings.rests.sizes[group] = items.sizes[i];
         }
 
-        /** Lays by all, and tells which is the best. */
-        private int layBest(Drawings drawings) {
-            int best = SLICE;
+        /** Lays as a HOW wants it, best by all the others: by which of them it is to be. */
+        private int layAs(int how, Drawings drawings) {
+            boolean isAny = how < SLICE || how > CUTS;
+            int laid = isAny ? SLICE : how;
+            int last = isAny ? CUTS : how;
             int leastCost = Integer.MAX_VALUE;
-            for (int how = SLICE; how <= CUTS; how++) {
-                layAs(how);
-                int cost = plans[how].worst + moveCost * movesOf(plans[how].places, drawings) / 100;
+            for (int by = laid; by <= last; by++) {
+                if (by == ROWS) {
+                    rowBreaker.lay(items, plans[ROWS]);
+                } else if (by == CUTS) {
+                    cutter.lay(items, plans[CUTS]);
+                } else {
+                    laySlice(plans[SLICE]);
+                }
+                int cost = plans[by].worst + moveCost * movesOf(plans[by].places, drawings) / 100;
                 if (cost < leastCost) {
                     leastCost = cost;
-                    best = how;
+                    laid = by;
                 }
             }
-            return best;
+            return laid;
         }
 
         /** MOVES of a LAYING against the DRAWING before. */
@@ -950,16 +955,6 @@ public final class AreaSetter {
                 }
             }
             return moves;
-        }
-
-        private void layAs(int how) {
-            if (how == ROWS) {
-                rowBreaker.lay(items, plans[ROWS]);
-            } else if (how == CUTS) {
-                cutter.lay(items, plans[CUTS]);
-            } else {
-                laySlice(plans[SLICE]);
-            }
         }
 
         private void layNothing(Plan plan) {
@@ -991,7 +986,7 @@ public final class AreaSetter {
 
         /** WORST of each ROW there could be. */
         private final int[] worst = new int[MOST_CHILDREN * ENDS];
-        /** Of the ITEMS from one on: the least WORST, then the fewest ROWS with which the least WORST of all is kept. */
+        /** Of the ITEMS from one on the least WORST; the fewest ROWS with which the least WORST of all is kept. */
         private final int[] least = new int[ENDS];
         private final int[] fewest = new int[ENDS];
 
@@ -1073,9 +1068,6 @@ public final class AreaSetter {
     private static final class Cutter {
         private Items items;
         private Plan plan;
-        /** What was chosen latest: the first ITEM of the others, and whether high is cut. */
-        private int chosenMiddle;
-        private boolean chosenDown;
 
         void lay(Items itemsToLay, Plan target) {
             items = itemsToLay;
@@ -1089,36 +1081,30 @@ public final class AreaSetter {
                 plan.put(items, from, x, y, wide, high);
                 return;
             }
-            choose(from, to, wide, high);
-            int middle = chosenMiddle;
-            if (chosenDown) {
-                int first = share(high, items.sum(from, middle), items.sum(from, to));
-                layPart(from, middle, x, y, wide, first);
-                layPart(middle, to, x, y + first, wide, high - first);
-            } else {
-                int first = share(wide, items.sum(from, middle), items.sum(from, to));
-                layPart(from, middle, x, y, first, high);
-                layPart(middle, to, x + first, y, wide - first, high);
-            }
-        }
-
-        private void choose(int from, int to, int wide, int high) {
             int least = Integer.MAX_VALUE;
-            chosenMiddle = from + 1;
-            chosenDown = false;
+            int chosen = from + 1;
+            boolean isDown = false;
             for (int middle = from + 1; middle < to; middle++) {
                 int across = worstOfCut(from, middle, to, wide, high, least);
                 if (across < least) {
                     least = across;
-                    chosenMiddle = middle;
-                    chosenDown = false;
+                    chosen = middle;
+                    isDown = false;
                 }
                 int down = worstOfCut(from, middle, to, high, wide, least);
                 if (down < least) {
                     least = down;
-                    chosenMiddle = middle;
-                    chosenDown = true;
+                    chosen = middle;
+                    isDown = true;
                 }
+            }
+            int first = share(isDown ? high : wide, items.sum(from, chosen), items.sum(from, to));
+            if (isDown) {
+                layPart(from, chosen, x, y, wide, first);
+                layPart(chosen, to, x, y + first, wide, high - first);
+            } else {
+                layPart(from, chosen, x, y, first, high);
+                layPart(chosen, to, x + first, y, wide - first, high);
             }
         }
 

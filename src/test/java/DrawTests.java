@@ -1,4 +1,4 @@
-/** Promises 1 to 3, 8 to 16, 20, 21: SIZES, RESTS, DRAWINGS, and what is told of them. The numbers are reckoned by hand. */
+/** Promises 1 to 3, 8 to 16, 20, 21: SIZES, RESTS, DRAWINGS, what is told of them; the numbers are reckoned by hand. */
 public final class DrawTests {
     private static final Hand HAND = new Hand();
     private static final int[] ODD = {-1, Integer.MIN_VALUE, Integer.MAX_VALUE};

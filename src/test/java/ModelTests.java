@@ -4,7 +4,7 @@ import java.util.List;
 import java.util.NoSuchElementException;
 import java.util.Random;
 
-/** Random runs of calls, as long as an object is used, on AreaSetter and on the plain model: all answers must be alike. */
+/** Random runs of calls, as long as an object is used, on AreaSetter and the plain model: all answers must be alike. */
 public final class ModelTests {
     private static final int RUNS = 400;
     private static final int CALLS = 512;
