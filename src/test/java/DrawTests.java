@@ -30,7 +30,7 @@ public final class DrawTests {
     }
 
     private static void promise1NewObject() {
-        AreaSetter s = new AreaSetter();
+        Used s = new Used();
         HAND.due("NONE", AreaSetter.NONE, -1);
         for (int what = 0; what < 7; what++) {
             HAND.due("count(" + what + ")", s.count(what), 0);
@@ -57,11 +57,11 @@ public final class DrawTests {
 
     /** With PRICE 1 rows would be the best: 2010 and 0 to 1992 and 30. */
     private static void promise1FirstPrice() {
-        AreaSetter s = Hand.drawn(1000, 1000, "r best(a 2,b 1,c 1)");
+        Used s = Hand.drawn(1000, 1000, "r best(a 2,b 1,c 1)");
         s.sheet(1005, 1000);
         s.draw(0);
         HAND.due("laid with PRICE 0", s.box(0, 6), 2);
-        AreaSetter t = Hand.drawn(1000, 1000, "r best(a 2,b 1,c 1)");
+        Used t = Hand.drawn(1000, 1000, "r best(a 2,b 1,c 1)");
         t.price(1);
         t.sheet(1005, 1000);
         t.draw(0);
@@ -69,7 +69,7 @@ public final class DrawTests {
     }
 
     private static void promise2Sheet() {
-        AreaSetter s = Hand.drawn(1, 3000, "r slice(a 1)");
+        Used s = Hand.drawn(1, 3000, "r slice(a 1)");
         HAND.dueBox(s, 0, 0, 0, 1, 3000);
         HAND.due("sheet(3000, 1)", s.sheet(3000, 1), true);
         HAND.dueBox(s, 0, 0, 0, 1, 3000);
@@ -84,7 +84,7 @@ public final class DrawTests {
 
     /** How a GROUP is laid that by rows would be worse (2200 to 1818), but move less (30 to 325). */
     private static int laidWithPrice(int price) {
-        AreaSetter s = Hand.with(100, 100, "r best(a 2,b 1,c 1)");
+        Used s = Hand.with(100, 100, "r best(a 2,b 1,c 1)");
         s.price(price);
         s.draw(0);
         HAND.due("laid at first", s.box(0, 6), 1);
@@ -94,7 +94,7 @@ public final class DrawTests {
     }
 
     private static void promise3Price() {
-        AreaSetter s = new AreaSetter();
+        Used s = new Used();
         HAND.due("price(0)", s.price(0), true);
         HAND.due("price(1000)", s.price(1000), true);
         HAND.due("price(1001)", s.price(1001), false);
@@ -105,7 +105,7 @@ public final class DrawTests {
         HAND.due("laid with PRICE 129", laidWithPrice(129), 2);
         HAND.due("laid with PRICE 130", laidWithPrice(130), 1);
         HAND.due("laid with PRICE 1000", laidWithPrice(1000), 1);
-        AreaSetter t = Hand.with(100, 100, "r best(a 2,b 1,c 1)");
+        Used t = Hand.with(100, 100, "r best(a 2,b 1,c 1)");
         t.price(130);
         t.price(1001);
         t.price(-1);
@@ -116,7 +116,7 @@ public final class DrawTests {
     }
 
     private static void promise8Size() {
-        AreaSetter s = Hand.with(10, 10, "r slice(a 1,g rows(b 2))");
+        Used s = Hand.with(10, 10, "r slice(a 1,g rows(b 2))");
         HAND.due("of a GROUP", s.size(0, 0, 1), -1);
         HAND.due("of a GROUP", s.size(2, 0, 1), -1);
         HAND.due("no BOX", s.size(4, 0, 1), -1);
@@ -152,7 +152,7 @@ public final class DrawTests {
     }
 
     private static void promise9Rest() {
-        AreaSetter s = Hand.with(100, 10, "r slice(a 1,b 1,c 8)");
+        Used s = Hand.with(100, 10, "r slice(a 1,b 1,c 8)");
         HAND.due("of a LEAF", s.rest(1, 5, false), false);
         HAND.due("no BOX", s.rest(4, 5, false), false);
         HAND.due("LIMIT 1000", s.rest(0, 1000, true), false);
@@ -177,33 +177,33 @@ public final class DrawTests {
         s.draw(7);
         HAND.due("one SMALL alone", s.restOf(0, 6), -1);
         HAND.dueBox(s, 2, 50, 0, 5, 10);
-        AreaSetter g = Hand.with(100, 10, "r slice(q slice(x 1),b 1,p slice(y 1),c 1,d 96)");
+        Used g = Hand.with(100, 10, "r slice(q slice(x 1),b 1,p slice(y 1),c 1,d 96)");
         g.rest(0, 500, false);
         HAND.due("GROUPS are not SMALL", drawnTogether(g, 0), 2);
         HAND.dueBox(g, 1, 0, 0, 1, 10);
         HAND.dueBox(g, 4, 1, 0, 1, 10);
         HAND.dueBox(g, 7, 2, 0, 96, 10);
         HAND.dueRest(g, 0, 98, 0, 2, 10);
-        AreaSetter all = Hand.with(100, 10, "r rows(a 1,b 1)");
+        Used all = Hand.with(100, 10, "r rows(a 1,b 1)");
         all.rest(0, 501, false);
         HAND.due("all are SMALL", drawnTogether(all, 0), 2);
         HAND.dueRest(all, 0, 0, 0, 100, 10);
         HAND.due("shown", all.count(5), 1);
-        AreaSetter big = Hand.with(100, 10, "r slice(a 999999,b 999999,c 999999,d 1,e 1)");
+        Used big = Hand.with(100, 10, "r slice(a 999999,b 999999,c 999999,d 1,e 1)");
         big.rest(0, 333, false);
         HAND.due("great SIZES", drawnTogether(big, 0), 2);
-        AreaSetter none = Hand.with(100, 10, "r slice(a 0,b 0)");
+        Used none = Hand.with(100, 10, "r slice(a 0,b 0)");
         none.rest(0, 999, false);
         HAND.due("nothing is less than 0", drawnTogether(none, 0), -1);
     }
 
-    private static int drawnTogether(AreaSetter s, int b) {
+    private static int drawnTogether(Used s, int b) {
         s.draw(0);
         return s.restOf(b, 6);
     }
 
     private static void promise10Draw() {
-        AreaSetter s = Hand.with(100, 10, "r slice(a 1,b 1)");
+        Used s = Hand.with(100, 10, "r slice(a 1,b 1)");
         HAND.due("draw(1000)", s.draw(1000), -1);
         for (int odd : ODD) {
             HAND.due("no TICK", s.draw(odd), -1);
@@ -212,29 +212,29 @@ public final class DrawTests {
         for (int d = 0; d < 120; d++) {
             HAND.due("draw " + d, s.draw(d == 0 ? 0 : 999), d);
         }
-        AreaSetter t = Hand.drawn(300, 100, "r slice(a 1,g rows(b 1,c 1))");
+        Used t = Hand.drawn(300, 100, "r slice(a 1,g rows(b 1,c 1))");
         HAND.dueBox(t, 0, 0, 0, 300, 100);
         HAND.dueBox(t, 1, 0, 0, 100, 100);
         HAND.dueBox(t, 2, 100, 0, 200, 100);
         HAND.dueBox(t, 3, 100, 0, 100, 100);
         HAND.dueBox(t, 4, 200, 0, 100, 100);
-        AreaSetter u = Hand.drawn(100, 300, "r slice(a 1,g cuts(b 1,c 1))");
+        Used u = Hand.drawn(100, 300, "r slice(a 1,g cuts(b 1,c 1))");
         HAND.dueBox(u, 2, 0, 100, 100, 200);
         HAND.dueBox(u, 3, 0, 100, 100, 100);
         HAND.dueBox(u, 4, 0, 200, 100, 100);
-        AreaSetter great = Hand.drawn(3000, 10, "r slice(a 999999,b 999999,c 999999)");
+        Used great = Hand.drawn(3000, 10, "r slice(a 999999,b 999999,c 999999)");
         HAND.dueBox(great, 3, 2000, 0, 1000, 10);
     }
 
     private static void promise10Slice() {
-        AreaSetter s = Hand.drawn(100, 100, "r slice(a 1,b 2)");
+        Used s = Hand.drawn(100, 100, "r slice(a 1,b 2)");
         HAND.dueBox(s, 1, 0, 0, 33, 100);
         HAND.dueBox(s, 2, 33, 0, 67, 100);
         s.sheet(99, 100);
         s.draw(0);
         HAND.dueBox(s, 1, 0, 0, 99, 33);
         HAND.dueBox(s, 2, 0, 33, 99, 67);
-        AreaSetter t = Hand.drawn(90, 20, "r slice(z 0,a 1,y 0)");
+        Used t = Hand.drawn(90, 20, "r slice(z 0,a 1,y 0)");
         HAND.dueBox(t, 1, 0, 0, 0, 20);
         HAND.dueBox(t, 2, 0, 0, 90, 20);
         HAND.dueBox(t, 3, 90, 0, 0, 20);
@@ -242,96 +242,96 @@ public final class DrawTests {
     }
 
     private static void promise10Rows() {
-        AreaSetter fewest = Hand.drawn(100, 100, "r rows(a 1,b 1)");
+        Used fewest = Hand.drawn(100, 100, "r rows(a 1,b 1)");
         HAND.dueBox(fewest, 1, 0, 0, 50, 100);
         HAND.dueBox(fewest, 2, 50, 0, 50, 100);
-        AreaSetter most = Hand.drawn(90, 99, "r rows(a 1,b 1,c 1)");
+        Used most = Hand.drawn(90, 99, "r rows(a 1,b 1,c 1)");
         HAND.due("worst", most.box(0, 7), 2727);
         HAND.dueBox(most, 1, 0, 0, 45, 66);
         HAND.dueBox(most, 2, 45, 0, 45, 66);
         HAND.dueBox(most, 3, 0, 66, 90, 33);
-        AreaSetter two = Hand.drawn(100, 100, "r rows(a 2,b 1,c 1)");
+        Used two = Hand.drawn(100, 100, "r rows(a 2,b 1,c 1)");
         HAND.due("worst", two.box(0, 7), 2000);
         HAND.dueBox(two, 1, 0, 0, 100, 50);
         HAND.dueBox(two, 2, 0, 50, 50, 50);
         HAND.dueBox(two, 3, 50, 50, 50, 50);
         // of 101 the second begins at 33, the third at 67 (cut each)
-        AreaSetter column = Hand.drawn(34, 101, "r rows(a 1,b 1,c 1)");
+        Used column = Hand.drawn(34, 101, "r rows(a 1,b 1,c 1)");
         HAND.dueBox(column, 1, 0, 0, 34, 33);
         HAND.dueBox(column, 2, 0, 33, 34, 34);
         HAND.dueBox(column, 3, 0, 67, 34, 34);
-        AreaSetter eight = Hand.drawn(400, 200, "r rows(a 1,b 1,c 1,d 1,e 1,f 1,g 1,h 1)");
+        Used eight = Hand.drawn(400, 200, "r rows(a 1,b 1,c 1,d 1,e 1,f 1,g 1,h 1)");
         for (int i = 0; i < 8; i++) {
             HAND.dueBox(eight, i + 1, i % 4 * 100, i / 4 * 100, 100, 100);
         }
-        AreaSetter zero = Hand.drawn(50, 50, "r rows(a 1,y 0,z 0)");
+        Used zero = Hand.drawn(50, 50, "r rows(a 1,y 0,z 0)");
         HAND.dueBox(zero, 1, 0, 0, 50, 50);
         HAND.dueBox(zero, 2, 50, 0, 0, 50);
         HAND.dueBox(zero, 3, 50, 0, 0, 50);
     }
 
     private static void promise10Cuts() {
-        AreaSetter one = Hand.drawn(70, 30, "r cuts(a 5)");
+        Used one = Hand.drawn(70, 30, "r cuts(a 5)");
         HAND.dueBox(one, 1, 0, 0, 70, 30);
-        AreaSetter wayFirst = Hand.drawn(100, 100, "r cuts(a 1,b 1)");
+        Used wayFirst = Hand.drawn(100, 100, "r cuts(a 1,b 1)");
         HAND.dueBox(wayFirst, 2, 50, 0, 50, 100);
-        AreaSetter down = Hand.drawn(99, 100, "r cuts(a 1,b 1)");
+        Used down = Hand.drawn(99, 100, "r cuts(a 1,b 1)");
         HAND.dueBox(down, 1, 0, 0, 99, 50);
         HAND.dueBox(down, 2, 0, 50, 99, 50);
-        AreaSetter s = Hand.drawn(110, 100, "r cuts(a 2,b 1,c 1)");
+        Used s = Hand.drawn(110, 100, "r cuts(a 2,b 1,c 1)");
         HAND.due("worst", s.box(0, 7), 1818);
         HAND.dueBox(s, 1, 0, 0, 55, 100);
         HAND.dueBox(s, 2, 55, 0, 55, 50);
         HAND.dueBox(s, 3, 55, 50, 55, 50);
-        AreaSetter four = Hand.drawn(100, 100, "r cuts(a 1,b 1,c 1,d 1)");
+        Used four = Hand.drawn(100, 100, "r cuts(a 1,b 1,c 1,d 1)");
         HAND.dueBox(four, 1, 0, 0, 50, 50);
         HAND.dueBox(four, 2, 0, 50, 50, 50);
         HAND.dueBox(four, 3, 50, 0, 50, 50);
         HAND.dueBox(four, 4, 50, 50, 50, 50);
-        AreaSetter eight = Hand.drawn(400, 200, "r cuts(a 1,b 1,c 1,d 1,e 1,f 1,g 1,h 1)");
+        Used eight = Hand.drawn(400, 200, "r cuts(a 1,b 1,c 1,d 1,e 1,f 1,g 1,h 1)");
         for (int i = 0; i < 8; i++) {
             HAND.dueBox(eight, i + 1, i / 2 * 100, i % 2 * 100, 100, 100);
         }
-        AreaSetter upright = Hand.drawn(200, 400, "r cuts(a 1,b 1,c 1,d 1,e 1,f 1,g 1,h 1)");
+        Used upright = Hand.drawn(200, 400, "r cuts(a 1,b 1,c 1,d 1,e 1,f 1,g 1,h 1)");
         // two by two from above, but the last four, of 200 by 200, by way 0
         for (int i = 0; i < 4; i++) {
             HAND.dueBox(upright, i + 1, i % 2 * 100, i / 2 * 100, 100, 100);
             HAND.dueBox(upright, i + 5, i / 2 * 100, i % 2 * 100 + 200, 100, 100);
         }
-        AreaSetter mixed = Hand.drawn(90, 60, "r cuts(a 1,b 1,c 2,d 1,e 1)");
+        Used mixed = Hand.drawn(90, 60, "r cuts(a 1,b 1,c 2,d 1,e 1)");
         HAND.due("worst", mixed.box(0, 7), 2000);
         HAND.dueBox(mixed, 1, 0, 0, 30, 30);
         HAND.dueBox(mixed, 2, 0, 30, 30, 30);
         HAND.dueBox(mixed, 3, 30, 0, 30, 60);
         HAND.dueBox(mixed, 4, 60, 0, 30, 30);
         HAND.dueBox(mixed, 5, 60, 30, 30, 30);
-        AreaSetter behind = Hand.drawn(100, 100, "r cuts(a 1,y 0,z 0)");
+        Used behind = Hand.drawn(100, 100, "r cuts(a 1,y 0,z 0)");
         HAND.dueBox(behind, 1, 0, 0, 100, 100);
         HAND.dueBox(behind, 2, 100, 0, 0, 100);
         HAND.dueBox(behind, 3, 100, 0, 0, 100);
-        AreaSetter ahead = Hand.drawn(100, 100, "r cuts(y 0,z 0,a 1)");
+        Used ahead = Hand.drawn(100, 100, "r cuts(y 0,z 0,a 1)");
         HAND.dueBox(ahead, 1, 0, 0, 0, 100);
         HAND.dueBox(ahead, 2, 0, 0, 0, 100);
         HAND.dueBox(ahead, 3, 0, 0, 100, 100);
         // half of 1 is 0 (cut) for the first one, all is the other's
-        AreaSetter thin = Hand.drawn(1, 1, "r cuts(a 1,b 1)");
+        Used thin = Hand.drawn(1, 1, "r cuts(a 1,b 1)");
         HAND.due("worst", thin.box(0, 7), 1000000);
         HAND.dueBox(thin, 1, 0, 0, 0, 1);
         HAND.dueBox(thin, 2, 0, 0, 1, 1);
     }
 
     private static void promise10Best() {
-        AreaSetter slice = Hand.drawn(300, 100, "r best(a 1,b 1,c 1)");
+        Used slice = Hand.drawn(300, 100, "r best(a 1,b 1,c 1)");
         HAND.due("laid", slice.box(0, 6), 0);
-        AreaSetter rows = Hand.drawn(100, 100, "r best(a 1,b 1,c 1,d 1)");
+        Used rows = Hand.drawn(100, 100, "r best(a 1,b 1,c 1,d 1)");
         HAND.due("laid", rows.box(0, 6), 1);
         HAND.due("worst", rows.box(0, 7), 1000);
         HAND.dueBox(rows, 2, 50, 0, 50, 50);
-        AreaSetter cuts = Hand.drawn(110, 100, "r best(a 2,b 1,c 1)");
+        Used cuts = Hand.drawn(110, 100, "r best(a 2,b 1,c 1)");
         HAND.due("laid", cuts.box(0, 6), 2);
         HAND.due("worst", cuts.box(0, 7), 1818);
         // those that were not SHOWN in the DRAWING before do not count, so all is as in the first one
-        AreaSetter hidden = Hand.with(100, 100, "r best(a 2,b 1,c 1)");
+        Used hidden = Hand.with(100, 100, "r best(a 2,b 1,c 1)");
         hidden.price(1000);
         hidden.rest(0, 999, false);
         hidden.draw(0);
@@ -349,7 +349,7 @@ public final class DrawTests {
 
     private static void promise10Nothing() {
         for (String how : new String[] {"slice", "rows", "cuts", "best"}) {
-            AreaSetter s = Hand.drawn(100, 50, "r " + how + "(a 0,b 0,g " + how + "(c 0))");
+            Used s = Hand.drawn(100, 50, "r " + how + "(a 0,b 0,g " + how + "(c 0))");
             HAND.dueBox(s, 0, 0, 0, 100, 50);
             for (int b = 1; b < 5; b++) {
                 HAND.dueBox(s, b, 0, 0, 0, 0);
@@ -359,7 +359,7 @@ public final class DrawTests {
             HAND.due("laid", s.box(3, 6), 0);
             HAND.due("worst", s.box(0, 7), 0);
             HAND.due("shown", s.count(5), 5);
-            AreaSetter t = Hand.drawn(100, 50, "r slice(a 1,g " + how + "(c 0,d 0),b 1)");
+            Used t = Hand.drawn(100, 50, "r slice(a 1,g " + how + "(c 0,d 0),b 1)");
             HAND.dueBox(t, 2, 50, 0, 0, 50);
             HAND.dueBox(t, 3, 50, 0, 0, 0);
             HAND.dueBox(t, 4, 50, 0, 0, 0);
@@ -368,7 +368,7 @@ public final class DrawTests {
     }
 
     private static void promise10Sorted() {
-        AreaSetter s = Hand.drawn(80, 10, "r slice sorted(a 1,b 3,c 1,d 3)");
+        Used s = Hand.drawn(80, 10, "r slice sorted(a 1,b 3,c 1,d 3)");
         HAND.dueBox(s, 2, 0, 0, 30, 10);
         HAND.dueBox(s, 4, 30, 0, 30, 10);
         HAND.dueBox(s, 1, 60, 0, 10, 10);
@@ -376,12 +376,12 @@ public final class DrawTests {
         s.size(1, 5, 4);
         s.draw(5);
         HAND.dueBox(s, 1, 0, 0, 29, 10);
-        AreaSetter t = Hand.with(70, 10, "r slice sorted(a 2,b 2,c 3)");
+        Used t = Hand.with(70, 10, "r slice sorted(a 2,b 2,c 3)");
         t.rest(0, 400, false);
         t.draw(0);
         HAND.dueBox(t, 3, 0, 0, 30, 10);
         HAND.dueRest(t, 0, 30, 0, 40, 10);
-        AreaSetter told = Hand.drawn(40, 10, "r slice(a 1,b 3)");
+        Used told = Hand.drawn(40, 10, "r slice(a 1,b 3)");
         HAND.dueBox(told, 1, 0, 0, 10, 10);
     }
 
@@ -399,21 +399,28 @@ public final class DrawTests {
                 }
                 text.append("),");
             }
-            AreaSetter s = Hand.with(600, 400, text + "x 9,y 30,z 70)");
-            HAND.due("boxes", s.count(0), 40);
-            s.price(50);
-            for (int d = 0; d < 101; d++) {
-                s.sheet(600 - d, 300 + d);
-                s.rest(d % 40, d * 3, d % 7 == 0);
-                HAND.due("draw", s.draw(d), d);
-                HAND.due("area", area(s), (600 - d) * (300 + d));
+            text.append("x 9,y 30,z 70)");
+            for (int last : new int[] {0, 1, 2, 7, 20, 49, 50, 60}) {
+                fillsTheSheet(text.toString(), last);
             }
         }
     }
 
-    private static int area(AreaSetter s) {
+    private static void fillsTheSheet(String text, int last) {
+        Used s = Hand.with(600, 400, text);
+        HAND.due("boxes", s.count(0), 40);
+        s.price(50);
+        for (int d = 0; d <= last; d++) {
+            s.sheet(600 - d, 300 + d);
+            s.rest(d % 40, d * 3, d % 7 == 0);
+            HAND.due("draw", s.draw(d), d);
+        }
+        HAND.due("area", area(s, 40), (600 - last) * (300 + last));
+    }
+
+    private static int area(Used s, int boxes) {
         int area = 0;
-        for (int b = 0; b < s.count(0); b++) {
+        for (int b = 0; b < boxes; b++) {
             if (s.about(b, 1) == 0 && s.box(b, 0) != -1) {
                 area += s.box(b, 2) * s.box(b, 3);
             }
@@ -425,7 +432,7 @@ public final class DrawTests {
     }
 
     private static void promise11Box() {
-        AreaSetter s = Hand.with(100, 10, "r slice(a 1,b 1,c 8,g cuts(d 10))");
+        Used s = Hand.with(100, 10, "r slice(a 1,b 1,c 8,g cuts(d 10))");
         HAND.due("no DRAWING", s.box(0, 0), -1);
         HAND.due("no DRAWING", s.box(0, 4), -1);
         s.rest(0, 100, false);
@@ -457,19 +464,19 @@ public final class DrawTests {
         HAND.due("as it was drawn", s.box(1, 4), 1);
         HAND.due("as it was drawn", s.box(1, 0), -1);
         HAND.due("as it was drawn", s.box(0, 2), 100);
-        AreaSetter flat = Hand.drawn(1, 1, "r slice(a 1,b 1,z 0)");
+        Used flat = Hand.drawn(1, 1, "r slice(a 1,b 1,z 0)");
         HAND.due("flat", flat.box(1, 5), 1000000);
         HAND.due("square", flat.box(2, 5), 1000);
         HAND.due("nothing", flat.box(3, 5), 0);
         HAND.due("worst", flat.box(0, 7), 1000000);
-        AreaSetter line = Hand.drawn(3000, 1, "r slice(a 1)");
+        Used line = Hand.drawn(3000, 1, "r slice(a 1)");
         HAND.due("line", line.box(1, 5), 3000000);
-        AreaSetter cut = Hand.drawn(200, 3, "r slice(a 1)");
+        Used cut = Hand.drawn(200, 3, "r slice(a 1)");
         HAND.due("cut", cut.box(1, 5), 66666);
     }
 
     private static void promise12RestOf() {
-        AreaSetter s = Hand.with(100, 10, "r slice(a 1,b 1,c 8,g slice(d 1,e 1,f 8))");
+        Used s = Hand.with(100, 10, "r slice(a 1,b 1,c 8,g slice(d 1,e 1,f 8))");
         s.rest(0, 60, false);
         HAND.due("no DRAWING", s.restOf(0, 6), -1);
         s.draw(0);
@@ -497,7 +504,7 @@ public final class DrawTests {
         HAND.due("the other one", s.restOf(4, 4), 2);
         Hand.tree(s, "r slice(a 1)");
         HAND.due("no DRAWING", s.restOf(0, 6), -1);
-        AreaSetter zero = Hand.with(50, 10, "r slice(a 0,b 0,c 5)");
+        Used zero = Hand.with(50, 10, "r slice(a 0,b 0,c 5)");
         zero.rest(0, 1, false);
         zero.draw(0);
         HAND.dueRest(zero, 0, 50, 0, 0, 10);
@@ -507,7 +514,7 @@ public final class DrawTests {
     }
 
     private static void promise13Under() {
-        AreaSetter s = Hand.with(100, 10, "r slice(a 1,b 1,z 0,c 8,g slice(d 1,e 1,f 8))");
+        Used s = Hand.with(100, 10, "r slice(a 1,b 1,z 0,c 8,g slice(d 1,e 1,f 8))");
         HAND.due("no DRAWING", s.under(0, 0), -1);
         s.rest(5, 101, false);
         s.draw(0);
@@ -529,14 +536,14 @@ public final class DrawTests {
         HAND.due("c first", s.under(0, 0), 4);
         HAND.due("in d", s.under(40, 0), 6);
         HAND.due("REST of the first GROUP", s.under(90, 0), 100);
-        AreaSetter zero = Hand.drawn(10, 10, "r slice(a 0,g slice(b 0))");
+        Used zero = Hand.drawn(10, 10, "r slice(a 0,g slice(b 0))");
         HAND.due("the first GROUP alone", zero.under(9, 9), 0);
         Hand.tree(zero, "r slice(a 1)");
         HAND.due("no DRAWING of the new TREE", zero.under(0, 0), -1);
     }
 
     private static void promise14Letters() {
-        AreaSetter s = Hand.with(8, 10, "abcdefgh slice(ab 1)");
+        Used s = Hand.with(8, 10, "abcdefgh slice(ab 1)");
         HAND.due("no DRAWING", s.letters(0), -1);
         int[][] all = {
             {8, 10, 1, 1}, {7, 10, 0, 0}, {1, 10, 0, 0}, {8, 9, 0, 0}, {13, 10, 1, 1}, {14, 10, 2, 2}, {20, 11, 3, 2},
@@ -552,7 +559,7 @@ public final class DrawTests {
         for (int odd : ODD) {
             HAND.due("no BOX", s.letters(odd), -1);
         }
-        AreaSetter hidden = Hand.with(100, 100, "r slice(a 1,b 1,c 8)");
+        Used hidden = Hand.with(100, 100, "r slice(a 1,b 1,c 8)");
         hidden.draw(0);
         HAND.due("SHOWN", hidden.letters(1), 1);
         for (int i = 0; i < 50; i++) {
@@ -565,7 +572,7 @@ public final class DrawTests {
     }
 
     private static void promise15Moved() {
-        AreaSetter s = Hand.with(100, 100, "r rows(a 2,b 1,c 1)");
+        Used s = Hand.with(100, 100, "r rows(a 2,b 1,c 1)");
         HAND.due("no DRAWING", s.moved(0), -1);
         s.draw(0);
         HAND.due("one DRAWING", s.moved(0), -1);
@@ -592,7 +599,7 @@ public final class DrawTests {
         HAND.due("not SHOWN then", s.moved(2), -1);
         s.draw(0);
         HAND.due("SHOWN in both", s.moved(2), 0);
-        AreaSetter up = Hand.drawn(300, 100, "r slice(a 1,b 2)");
+        Used up = Hand.drawn(300, 100, "r slice(a 1,b 2)");
         up.sheet(100, 300);
         up.draw(0);
         HAND.due("moved(2)", up.moved(2), 100 + 100 + 200 + 200);
@@ -604,7 +611,7 @@ public final class DrawTests {
     }
 
     private static void promise16Past() {
-        AreaSetter s = Hand.with(100, 10, "r slice(a 1,b 1,c 8)");
+        Used s = Hand.with(100, 10, "r slice(a 1,b 1,c 8)");
         HAND.duePast(s, 0, 0, 0, Hand.THROWN);
         HAND.duePast(s, 0, 0, 5, Hand.THROWN);
         s.draw(7);
@@ -635,8 +642,12 @@ public final class DrawTests {
         }
         HAND.duePast(s, 3, 0, 0, Hand.THROWN);
         HAND.duePast(s, 0, 4, 5, Hand.THROWN);
-        AreaSetter t = Hand.with(1, 1, "r slice(a 1)");
-        for (int d = 0; d < 130; d++) {
+        promise16Kept();
+    }
+
+    private static void promise16Kept() {
+        Used t = Hand.with(1, 1, "r slice(a 1)");
+        for (int d = 0; d < 70; d++) {
             t.sheet(d + 1, 1);
             t.draw(d);
             HAND.duePast(t, d, 0, 2, d + 1);
@@ -645,10 +656,20 @@ public final class DrawTests {
             HAND.duePast(t, d - 50, 0, 5, Hand.THROWN);
             HAND.duePast(t, d + 1, 0, 5, Hand.THROWN);
         }
+        Used often = Hand.with(1, 1, "r slice(a 1)");
+        for (int d = 0; d < 130; d++) {
+            often.sheet(d + 1, 1);
+            often.draw(d);
+        }
+        for (int d = 78; d < 132; d++) {
+            boolean isKept = d >= 80 && d < 130;
+            HAND.duePast(often, d, 1, 2, isKept ? d + 1 : Hand.THROWN);
+            HAND.duePast(often, d, 0, 5, isKept ? d : Hand.THROWN);
+        }
     }
 
     private static void promise20SizeIn() {
-        AreaSetter s = Hand.with(10, 10, "r slice(a 1,g rows(b 2,h cuts(c 4)),d 999999)");
+        Used s = Hand.with(10, 10, "r slice(a 1,g rows(b 2,h cuts(c 4)),d 999999)");
         int[] first = {1000006, 1, 6, 2, 4, 4, 999999};
         for (int b = 0; b < first.length; b++) {
             HAND.due("sizeIn(" + b + ", 0)", s.sizeIn(b, 0), first[b]);
@@ -675,7 +696,7 @@ public final class DrawTests {
     }
 
     private static void promise21Count() {
-        AreaSetter s = Hand.with(100, 10, "r slice(a 1,b 1,c 8,g slice(d 1,e 1))");
+        Used s = Hand.with(100, 10, "r slice(a 1,b 1,c 8,g slice(d 1,e 1))");
         s.size(1, 5, 1);
         s.feed(0, 0, 0, 0, 0);
         int[] undrawn = {7, 2, 1, 0, 20, 0, 0};
@@ -692,9 +713,9 @@ public final class DrawTests {
         HAND.due("shown in the latest", s.count(5), 7);
         s.draw(0);
         HAND.due("shown with a REST", s.count(5), 5);
-        AreaSetter inner = Hand.drawn(100, 100, "r slice(g slice(a 1,b 1,c 1,d 1))");
+        Used inner = Hand.drawn(100, 100, "r slice(g slice(a 1,b 1,c 1,d 1))");
         HAND.due("worst of an inner GROUP", inner.count(6), 4000);
-        AreaSetter outer = Hand.drawn(400, 100, "r slice(g slice(a 1,b 1,c 1,d 1))");
+        Used outer = Hand.drawn(400, 100, "r slice(g slice(a 1,b 1,c 1,d 1))");
         HAND.due("worst of the outer GROUP", outer.count(6), 4000);
         for (int i = 0; i < 70; i++) {
             outer.draw(0);

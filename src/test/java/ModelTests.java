@@ -6,19 +6,20 @@ import java.util.Random;
 
 /** Random runs of calls, as long as an object is used, on AreaSetter and the plain model: all answers must be alike. */
 public final class ModelTests {
-    private static final int RUNS = 400;
-    private static final int CALLS = 512;
+    private static final int RUNS = 2000;
+    /** More calls than one step of a run takes; as many are left for the last look. */
+    private static final int LAST_LOOK = 70;
+    private static final int LOOKS = 12;
     private static final int[] ODD = {-1, 0, 1, 39, 40, 100, 999, 1000, 3001, Integer.MIN_VALUE, Integer.MAX_VALUE};
     private static final String[] HOWS = {"slice", "rows", "cuts", "best"};
 
     private final Random random;
-    private final AreaSetter setter = new AreaSetter();
+    private final Used setter = new Used();
     private final AreaModel model = new AreaModel();
     private final List<String> log = new ArrayList<>();
     private final int style;
     /** One TREE for the whole run, and more DRAWINGS of it than are kept. */
     private final boolean isLongLived;
-    private int calls = 0;
 
     private ModelTests(int seed) {
         random = new Random(seed);
@@ -39,10 +40,11 @@ public final class ModelTests {
     }
 
     private boolean go() {
-        while (calls < CALLS) {
+        boolean isFirst = true;
+        while (setter.left() >= LAST_LOOK) {
             int pick = random.nextInt(100);
             boolean alike;
-            if (calls == 0 || pick < (isLongLived ? 0 : 2) || model.count(0) == 0 && pick < 50) {
+            if (isFirst || pick < (isLongLived ? 0 : 2) || model.count(0) == 0 && pick < 50) {
                 alike = tellTree(random.nextInt(5) == 0);
             } else if (pick < 10) {
                 alike = drawAndLook();
@@ -52,12 +54,12 @@ public final class ModelTests {
             if (!alike) {
                 return false;
             }
+            isFirst = false;
         }
-        return true;
+        return look(setter.left());
     }
 
     private boolean same(String call, long got, long want) {
-        calls++;
         log.add(call + "=" + want);
         if (got != want) {
             log.add("but " + got);
@@ -214,17 +216,28 @@ public final class ModelTests {
         if (!same("draw(" + tick + ")", setter.draw(tick), model.draw(tick))) {
             return false;
         }
-        for (int b = -1; b <= model.count(0); b++) {
-            for (int what = -1; what <= 8; what++) {
-                if (setter.box(b, what) != model.box(b, what)) {
-                    return same("box(" + b + ", " + what + ")", setter.box(b, what), model.box(b, what));
-                }
-                if (setter.restOf(b, what) != model.restOf(b, what)) {
-                    return same("restOf(" + b + ", " + what + ")", setter.restOf(b, what), model.restOf(b, what));
-                }
+        return look(LOOKS) && same("count(5)", setter.count(5), model.count(5))
+                && same("count(6)", setter.count(6), model.count(6));
+    }
+
+    /** Some answers about the latest DRAWING, each by one call. */
+    private boolean look(int many) {
+        for (int i = 0; i < many; i++) {
+            int what = random.nextInt(10) - 1;
+            boolean alike = random.nextInt(4) == 0 ? lookAtRest(groupNumber(), what) : lookAtBox(boxNumber(), what);
+            if (!alike) {
+                return false;
             }
         }
-        return same("count(5)", setter.count(5), model.count(5)) && same("count(6)", setter.count(6), model.count(6));
+        return true;
+    }
+
+    private boolean lookAtBox(int b, int what) {
+        return same("box(" + b + ", " + what + ")", setter.box(b, what), model.box(b, what));
+    }
+
+    private boolean lookAtRest(int g, int what) {
+        return same("restOf(" + g + ", " + what + ")", setter.restOf(g, what), model.restOf(g, what));
     }
 
     private boolean oneCall(int pick) {

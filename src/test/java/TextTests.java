@@ -19,7 +19,7 @@ public final class TextTests {
     }
 
     private static void promise4Feed() {
-        AreaSetter s = new AreaSetter();
+        Used s = new Used();
         HAND.due("feed", s.feed(0x61626364, 0x65666768, 0x20736c69, 0x63652878, 0x20312920), 20);
         HAND.due("bytes", s.count(4), 20);
         HAND.due("tree of \"abcdefgh slice(x 1) \"", s.tree(), 2);
@@ -41,7 +41,7 @@ public final class TextTests {
     }
 
     private static void promise5End() {
-        AreaSetter s = new AreaSetter();
+        Used s = new Used();
         HAND.due("end(0) of none", s.end(0), 0);
         HAND.due("end(1) of none", s.end(1), -1);
         s.feed(0, 0, 0, 0, 0);
@@ -61,7 +61,7 @@ public final class TextTests {
     }
 
     private static void text(String text, int answer, int place) {
-        AreaSetter s = new AreaSetter();
+        Used s = new Used();
         String shown = text.replace("\n", "\\n");
         HAND.due("tree of \"" + shown + "\"", Hand.tree(s, text), answer);
         HAND.due("place in \"" + shown + "\"", s.place(), place);
@@ -84,7 +84,7 @@ public final class TextTests {
         text("r slice(xlice 1,xows 2,xuts 3,xest 4,xorted 5)", 6, -1);
         text("zz slice(az 0,za 90,aa 09)", 4, -1);
         text("r slice(a 1)" + " ".repeat(988), 2, -1);
-        AreaSetter s = new AreaSetter();
+        Used s = new Used();
         Hand.tree(s, "r slice(a 000012,b 0,c 999999)");
         HAND.due("a", s.sizeIn(1, 0), 12);
         HAND.due("b", s.sizeIn(2, 0), 0);
@@ -203,7 +203,7 @@ public final class TextTests {
     }
 
     private static void promise6WhatStays() {
-        AreaSetter s = Hand.drawn(30, 20, "r slice(a 1,b 2)");
+        Used s = Hand.drawn(30, 20, "r slice(a 1,b 2)");
         s.price(130);
         s.size(1, 4, 9);
         s.rest(0, 7, true);
@@ -241,7 +241,7 @@ public final class TextTests {
 
     /** Nothing of a TREE, or of a TEXT with a FAULT, is left in those read later. */
     private static void promise6TreeBehindTree() {
-        AreaSetter s = new AreaSetter();
+        Used s = new Used();
         for (int round = 0; round < 4; round++) {
             HAND.due("tree", Hand.tree(s, "r best sorted(aaa 1,g rows sorted(b 5,c 6),d 7,e 8)"), 7);
             s.rest(0, 5, true);
@@ -267,7 +267,7 @@ public final class TextTests {
     }
 
     private static void promise7Place() {
-        AreaSetter s = new AreaSetter();
+        Used s = new Used();
         HAND.due("place without tree()", s.place(), -1);
         Hand.tree(s, "r slice(a 1))");
         HAND.due("place", s.place(), 12);
@@ -281,7 +281,7 @@ public final class TextTests {
     }
 
     private static void promise17About() {
-        AreaSetter s = new AreaSetter();
+        Used s = new Used();
         HAND.due("about without a TREE", s.about(0, 1), -1);
         Hand.tree(s, "root best sorted(ab 1,cde rows(f 2,g cuts(h 3)),i slice(j 4))");
         s.rest(2, 999, true);
@@ -313,7 +313,7 @@ public final class TextTests {
     }
 
     private static void promise18Letter() {
-        AreaSetter s = new AreaSetter();
+        Used s = new Used();
         HAND.due("letter without a TREE", s.letter(0, 0), -1);
         Hand.tree(s, "abcdefgh slice(z 1,yx 2)");
         HAND.due("letter(0, 0)", s.letter(0, 0), 'a');
@@ -331,7 +331,7 @@ public final class TextTests {
     }
 
     private static void promise19Named() {
-        AreaSetter s = new AreaSetter();
+        Used s = new Used();
         HAND.due("named without a TREE", Hand.named(s, "a"), -1);
         HAND.due("bytes then", s.count(4), 0);
         Hand.tree(s, "root slice(ab 1,a 2,abc 3,abcdefgh 4)");
