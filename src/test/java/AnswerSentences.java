@@ -283,6 +283,20 @@ final class AnswerSentences {
             all.draw(0);
             h.due("all is the REST", all.under(0, 0), 100);
             h.due("all is the REST", all.under(8, 8), 100);
+            all.size(1, 5, 0);
+            all.size(2, 5, 0);
+            all.draw(5);
+            h.due("with S 0 there is none", all.under(8, 8), 0);
+            all.draw(0);
+            Hand.tree(all, "r slice(a 0)");
+            all.draw(0);
+            h.due("nor one of the TREE before", all.under(8, 8), 0);
+            u.rest(4, 101, false);
+            u.draw(0);
+            h.due("a REST again", u.under(90, 0), 104);
+            Hand.tree(u, "r slice(a 1,b 1,c 1,d 1)");
+            u.draw(0);
+            h.due("d has the number of a GROUP before", u.under(90, 0), 4);
         });
         s.says("NONE: there is none,", h -> {
             Used u = Hand.drawn(100, 10, "r slice(a 1)");
@@ -660,7 +674,31 @@ final class AnswerSentences {
         dueCount(s, "3 DRAWINGS made of this TREE,", 3, 0, 0, 1, 72, 0);
         dueCount(s, "4 bytes of the TAPE,", 4, 0, 0, 40, 40, 0);
         dueCount(s, "5 BOXES SHOWN in the latest DRAWING (0 without),", 5, 0, 0, 7, 5, 0);
-        dueCount(s, "6 the greatest WORST in it (0).", 6, 0, 0, 6700, 6600, 0);
+        s.says("6 the greatest WORST in it (0).", h -> {
+            Used u = new Used();
+            h.due("new", u.count(6), 0);
+            u.sheet(400, 100);
+            Hand.tree(u, "r slice(g slice(a 1,b 1,c 1,d 1),k slice(e 1,f 1,p 1,q 1))");
+            h.due("without a DRAWING", u.count(6), 0);
+            u.draw(0);
+            // r has two of 200 by 100, g and k four of 50 by 100
+            h.due("of the inner ones", u.count(6), 2000);
+            u.size(2, 1, 9);
+            u.draw(1);
+            // g is 300 wide, a 225; k 100 wide
+            h.due("of the last one", u.count(6), 4000);
+            u.rest(0, 999, false);
+            u.size(7, 2, 999999);
+            u.draw(2);
+            h.due("flat", u.count(6), 1000000);
+            Hand.tree(u, "r slice(a 1,b 1,c 1,d 1,e 1,f 1)");
+            h.due("of another TREE", u.count(6), 0);
+            u.draw(0);
+            h.due("of the first one", u.count(6), 1515);
+            Hand.tree(u, "r slice(g rows(a 0))");
+            u.draw(0);
+            h.due("with S 0", u.count(6), 0);
+        });
         s.says("NONE for others.", h -> {
             Used u = new Used();
             for (int wrong : Hand.outside(0, 6)) {

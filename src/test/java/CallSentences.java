@@ -45,6 +45,11 @@ final class CallSentences {
             priced.sheet(1005, 1000);
             priced.draw(0);
             h.due("laid with PRICE 1", priced.box(0, 6), 1);
+            // rows and cuts are of WORST 3666, and cuts moves more: with a PRICE below 0 it would be the best
+            Used like = Hand.drawn(10, 120, "r best(a 3,b 1,c 4)");
+            like.sheet(60, 110);
+            like.draw(0);
+            h.due("laid", like.box(0, 6), 1);
         });
         s.says("no DRAWINGS,", h -> {
             Used u = new Used();
@@ -248,6 +253,7 @@ final class CallSentences {
             h.due("draw", u.draw(0), 0);
             h.dueBox(u, 0, 0, 0, 30, 20);
             h.due("moved", u.moved(0), -1);
+            treeBehindTree(h);
         });
         s.says("with a FAULT 2 less than minus its kind (-3 to -5),", h -> {
             h.due("kind 1", Hand.tree(new Used(), "r slice(a 1"), -3);
@@ -308,6 +314,37 @@ final class CallSentences {
             Hand.tree(u, "r slice(a 1)");
             h.due("without a FAULT", u.place(), -1);
         });
+    }
+
+    /** Nothing of a TREE, or of a TEXT with a FAULT, is left in those read later. */
+    private static void treeBehindTree(Hand h) {
+        Used u = new Used();
+        String former = "r best sorted(aaa 1,b 5,g rows sorted(c 6,d 7),e 8)";
+        // where a TREE is held may change with each one, so several stand between like ones
+        int[] many = {1, 2, 1, 3};
+        for (int round = 0; round < many.length; round++) {
+            for (int i = 0; i < many[round]; i++) {
+                h.due("tree", Hand.tree(u, former), 7);
+                u.rest(0, 5, true);
+                u.rest(3, 6, true);
+            }
+            if (round == 1) {
+                h.due("FAULT", Hand.tree(u, former.substring(0, former.length() - 1)), -3);
+            }
+            h.due("tree", Hand.tree(u, "q rows(x cuts(y 2,z slice(v 4)),w slice(p 3))"), 7);
+            int[][] about = {{-1, 0, 1, 1, 3, 0, 5}, {1, 1, 0, 1, 0, 1, 0}, {2, 2, 0, 1, 0, 1, 0}, {1, 1, 1, 1, 1, 1, 1},
+                {0, 1, 2, 2, 3, 1, 2}, {1, 2, -1, 0, -1, 0, -1}, {0, 0, -1, 0, -1, 0, -1}, {0, 0, -1, 0, -1, 0, -1},
+                {0, 0, -1, 0, -1, 0, -1}};
+            int[] sizes = {9, 6, 2, 4, 4, 3, 3};
+            for (int b = 0; b < sizes.length; b++) {
+                for (int what = 0; what < about.length; what++) {
+                    h.due("about(" + b + ", " + what + ")", u.about(b, what), about[what][b]);
+                }
+                h.due("SIZE of " + b, u.sizeIn(b, 0), sizes[b]);
+            }
+            h.due("GROUPS", u.count(1), 4);
+            h.due("an old NAME", Hand.named(u, "aaa"), -1);
+        }
     }
 
     private static void sizeAndRest(Sentences s) {

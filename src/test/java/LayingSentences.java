@@ -111,6 +111,7 @@ final class LayingSentences {
                 h.dueLaid(u, 3, 0, 0);
                 Used wide = Hand.drawn(100, 50, "r slice(a 1,g " + how + "(c 0,d 0),b 1)");
                 dueAll(h, wide, at(0, 0, 50, 50), at(50, 0, 0, 50), at(50, 0, 0, 0), at(50, 0, 0, 0));
+                h.dueLaid(wide, 2, 0, 0);
                 Used high = Hand.drawn(50, 100, "r slice(a 1,g " + how + "(c 0,d 0),b 1)");
                 dueAll(h, high, at(0, 0, 50, 50), at(0, 50, 50, 0), at(0, 50, 0, 0), at(0, 50, 0, 0));
                 Used one = Hand.drawn(50, 100, "r " + how + "(a 0)");
@@ -228,6 +229,15 @@ final class LayingSentences {
             dueAll(h, four, at(0, 0, 40, 13), at(0, 13, 20, 13), at(20, 13, 10, 13), at(30, 13, 10, 13), at(0, 26, 40, 14));
             Used flat = Hand.drawn(3000, 1, "r rows(a 1)");
             h.dueLaid(flat, 0, 1, 3000000);
+            // a GROUP of fewer ITEMS behind one that is laid far worse, or in one ROW alone
+            Used behind = Hand.drawn(100, 100, "r slice(p rows(a 50,b 49,c 1),q rows(e 50,f 50))");
+            h.dueLaid(behind, 1, 1, 50000);
+            h.dueLaid(behind, 5, 1, 1000);
+            h.dueBox(behind, 7, 50, 50, 50, 50);
+            Used squares = Hand.drawn(150, 25, "r slice(p rows(a 1,b 1,c 1,d 1),q rows(e 1,f 1))");
+            h.dueLaid(squares, 1, 1, 1000);
+            h.dueLaid(squares, 6, 1, 1000);
+            h.dueBox(squares, 8, 125, 0, 25, 25);
         });
         s.says("of several that with the fewest ROWS;", h -> {
             Used one = Hand.drawn(100, 100, "r rows(a 1,b 1)");
@@ -323,6 +333,24 @@ final class LayingSentences {
             Used hopeless = Hand.drawn(100, 100, "r cuts(a 1,b 100,c 50,d 50)");
             h.dueLaid(hopeless, 0, 2, 1000000);
             dueAll(h, hopeless, at(0, 0, 0, 100), at(0, 0, 50, 100), at(50, 0, 50, 50), at(50, 50, 50, 50));
+            Used five = Hand.drawn(6, 5, "r cuts(a 1,b 1,c 1,d 2,e 2)");
+            h.dueLaid(five, 0, 2, 1000);
+            dueAll(h, five, at(0, 0, 2, 2), at(2, 0, 2, 2), at(4, 0, 2, 2), at(0, 2, 3, 3), at(3, 2, 3, 3));
+            // by the other way a and b together would get nothing
+            Used high = Hand.drawn(20, 60, "r cuts(a 1,b 1,c 40)");
+            h.dueLaid(high, 0, 2, 5000);
+            dueAll(h, high, at(0, 0, 10, 2), at(10, 0, 10, 2), at(0, 2, 20, 58));
+            Used wide = Hand.drawn(60, 20, "r cuts(a 1,b 1,c 40)");
+            dueAll(h, wide, at(0, 0, 2, 10), at(0, 10, 2, 10), at(2, 0, 58, 20));
+            // the part of a and b is 1 wide, or 1 high
+            Used thin = Hand.drawn(3, 2, "r cuts(a 1,b 1,c 4)");
+            h.dueLaid(thin, 0, 2, 1000);
+            dueAll(h, thin, at(0, 0, 1, 1), at(0, 1, 1, 1), at(1, 0, 2, 2));
+            Used low = Hand.drawn(2, 3, "r cuts(a 1,b 1,c 4)");
+            h.dueLaid(low, 0, 2, 1000);
+            dueAll(h, low, at(0, 0, 1, 1), at(1, 0, 1, 1), at(0, 1, 2, 2));
+            Used line = Hand.drawn(1, 3, "r cuts(a 1,b 1,c 1)");
+            dueAll(h, line, at(0, 0, 1, 1), at(0, 1, 1, 1), at(0, 2, 1, 1));
             Used flat = Hand.drawn(3000, 1, "r cuts(a 1,b 1)");
             h.dueLaid(flat, 0, 2, 1500000);
             dueAll(h, flat, at(0, 0, 1500, 1), at(1500, 0, 1500, 1));
@@ -366,6 +394,20 @@ final class LayingSentences {
         return u;
     }
 
+    /** A GROUP in three DRAWINGS, of two SHEETS and a last one; in the second its SMALL ones are PUT TOGETHER. */
+    private static Used hiddenBetween(String text, int price, int[] sheets, int wide, int high) {
+        Used u = Hand.with(sheets[0], sheets[1], text);
+        u.price(price);
+        u.draw(0);
+        u.sheet(sheets[2], sheets[3]);
+        u.rest(0, 300, false);
+        u.draw(0);
+        u.sheet(wide, high);
+        u.rest(0, 300, true);
+        u.draw(0);
+        return u;
+    }
+
     private static void best(Sentences s) {
         s.says("best: of slice (0), rows (1), cuts (2) the one with the least of WORST and PRICE times MOVES divided by 100"
                 + " (cut) together;", h -> {
@@ -382,6 +424,8 @@ final class LayingSentences {
             h.dueLaid(twice("r best(a 3,b 4,c 3)", 80, 30, 1, 90, 100), 0, 1, 3000);
             h.dueLaid(twice("r best(a 3,b 4,c 3)", 80, 30, 3, 90, 100), 0, 2, 3000);
             h.dueLaid(twice("r best(a 3,b 4,c 3)", 80, 30, 0, 90, 100), 0, 0, 3000);
+            // all of WORST 1875; 76, 76, 74 MOVES: 22 each with PRICE 30; one more or less, and cuts would be it
+            h.dueLaid(twice("r best(a 1,b 2,c 3)", 80, 40, 30, 100, 30), 0, 0, 1875);
             // 5000, 2500, 2500; 540, 520, 532 MOVES: 5270, 2760, 2766
             h.dueLaid(twice("r best(a 2,b 1,c 2)", 200, 20, 50, 40, 40), 0, 1, 2500);
         });
@@ -419,25 +463,21 @@ final class LayingSentences {
             first.price(1000);
             first.draw(0);
             h.dueLaid(first, 0, 2, 1818);
-            // in the second one b and c are PUT TOGETHER, so in the third a alone counts: 70 MOVES in each
-            Used hidden = Hand.with(200, 60, "r best(a 2,b 1,c 1)");
-            hidden.price(10);
-            hidden.draw(0);
-            hidden.sheet(100, 30);
-            hidden.rest(0, 300, false);
-            hidden.draw(0);
-            h.due("PUT TOGETHER", hidden.restOf(0, 6), 2);
-            hidden.sheet(100, 100);
-            hidden.rest(0, 300, true);
-            hidden.draw(0);
+            // in the second one b and c are PUT TOGETHER, so in the third a alone counts
+            Used hidden = hiddenBetween("r best(a 2,b 1,c 1)", 10, at(200, 60, 100, 30), 100, 100);
+            h.due("PUT TOGETHER then", hidden.moved(2), -1);
             h.dueLaid(hidden, 0, 1, 2000);
+            // 4583, 1818, 1527 and 3 times 148, 56, 148; with b and c, from wherever, it would be rows
+            Used other = hiddenBetween("r best(a 3,b 1,c 1)", 300, at(80, 200, 200, 10), 120, 110);
+            h.due("PUT TOGETHER then", other.moved(2), -1);
+            h.dueLaid(other, 0, 2, 1527);
             // of another TREE nothing was SHOWN
-            Used other = Hand.drawn(100, 100, "r best(a 2,b 1,c 1)");
-            other.price(1000);
-            Hand.tree(other, "r best(a 2,b 1,c 1)");
-            other.sheet(110, 100);
-            other.draw(0);
-            h.dueLaid(other, 0, 2, 1818);
+            Used another = Hand.drawn(100, 100, "r best(a 2,b 1,c 1)");
+            another.price(1000);
+            Hand.tree(another, "r best(a 2,b 1,c 1)");
+            another.sheet(110, 100);
+            another.draw(0);
+            h.dueLaid(another, 0, 2, 1818);
             Used same = twice("r best(a 2,b 1,c 1)", 100, 100, 130, 110, 100);
             same.draw(0);
             h.dueLaid(same, 0, 1, 2200);
@@ -515,6 +555,16 @@ final class LayingSentences {
             boolean[] then = {true, false, false, true, true, true, true, true};
             for (int b = 0; b < then.length; b++) {
                 h.due("SHOWN then " + b, u.box(b, 2) != -1, then[b]);
+            }
+            // more DRAWINGS than are kept, and in the last one they are PUT TOGETHER once more
+            u.rest(0, 0, false);
+            for (int d = 2; d < 60; d++) {
+                u.draw(0);
+            }
+            u.rest(0, 60, false);
+            u.draw(0);
+            for (int b = 0; b < then.length; b++) {
+                h.due("SHOWN at last " + b, u.box(b, 2) != -1, then[b]);
             }
         });
         s.says("DRAWINGS are numbered from 0 on;", h -> {

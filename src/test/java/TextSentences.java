@@ -30,6 +30,10 @@ final class TextSentences {
             h.due("its SIZE", u.sizeIn(39, 0), 1);
             h.due("all their SIZES", u.sizeIn(0, 0), 35);
             h.dueText(thirtyNine() + ",y 1,z 1)", -4, thirtyNine().length() + 5);
+            Used last = new Used();
+            h.due("the last one with the longest NAME", Hand.tree(last, thirtyNine() + ",abcdefgh 1)"), 40);
+            h.due("its last letter", last.letter(39, 7), 'h');
+            h.due("its number", Hand.named(last, "abcdefgh"), 39);
         });
         s.says("numbered from 0 on as they are met along its text,", h -> {
             Used u = new Used();
