@@ -37,15 +37,13 @@ public final class AreaSetter {
     private static final int REST_MARK = 100;
 
     private final Tape tape = new Tape();
-    private final Reader reader = new Reader();
+    private final Reader reader = new Reader(tape);
     private final Changes changes = new Changes();
     private final Drawings drawings = new Drawings();
     private final Layer layer = new Layer();
     private final int[] sizesNow = new int[MOST_BOXES];
     /** The TREE there is; it has no BOXES before the first one is read. */
     private Tree kept = new Tree();
-    /** Where a TEXT is read to, so that one with a FAULT changes nothing. */
-    private Tree spare = new Tree();
     private int sheetWide = 600;
     private int sheetHigh = 400;
 
@@ -90,14 +88,14 @@ public final class AreaSetter {
     }
 
     public int tree() {
-        int fault = reader.read(tape, spare);
+        int fault = reader.read();
         tape.length = 0;
         if (fault != Reader.NO_FAULT) {
             return -fault - 2;
         }
         Tree former = kept;
-        kept = spare;
-        spare = former;
+        kept = reader.tree;
+        reader.tree = former;
         changes.many = 0;
         drawings.made = 0;
         return kept.boxes;
@@ -309,8 +307,9 @@ public final class AreaSetter {
         if (itemSize == 0) {
             return 0;
         }
-        int lesser = Math.min(wide, high);
-        return lesser <= 0 ? FLAT_SHAPE : Math.max(wide, high) * 1000 / lesser;
+        int lesser = wide < high ? wide : high;
+        int greater = wide < high ? high : wide;
+        return lesser <= 0 ? FLAT_SHAPE : greater * 1000 / lesser;
     }
 
     /** Of a length the share of some SIZES among others together (cut); 0 if those are 0. */
@@ -431,7 +430,7 @@ public final class AreaSetter {
         }
     }
 
-    /** Reads a TEXT, TOKEN by TOKEN, into a TREE, up to its end or its first FAULT. */
+    /** Reads the TEXT on the TAPE, TOKEN by TOKEN, up to its end or its first FAULT. */
     private static final class Reader {
         static final int NO_FAULT = 0;
         private static final int NOT_TEXT = 1;
@@ -451,8 +450,9 @@ public final class AreaSetter {
 
         /** The place of the latest FAULT; NONE without one. */
         int faultAt = NONE;
-        private Tape tape;
-        private Tree tree;
+        /** Where a TEXT is read to: not the TREE there is, as one with a FAULT changes nothing. */
+        Tree tree = new Tree();
+        private final Tape tape;
         private int due;
         /** The GROUP whose CHILDREN are being read. */
         private int within;
@@ -460,9 +460,11 @@ public final class AreaSetter {
         private int from;
         private int to;
 
-        int read(Tape text, Tree target) {
-            tape = text;
-            tree = target;
+        Reader(Tape tapeToRead) {
+            tape = tapeToRead;
+        }
+
+        int read() {
             tree.boxes = 0;
             tree.groups = 0;
             due = NAME_DUE;
@@ -890,8 +892,8 @@ public final class AreaSetter {
         private final Items items = new Items();
         /** One for each of slice, rows, cuts. */
         private final Plan[] plans = {new Plan(), new Plan(), new Plan()};
-        private final RowBreaker rowBreaker = new RowBreaker();
-        private final Cutter cutter = new Cutter();
+        private final RowBreaker rowBreaker = new RowBreaker(items, plans[ROWS]);
+        private final Cutter cutter = new Cutter(items, plans[CUTS]);
 
         void layGroup(Tree tree, int group, Drawings drawings) {
             items.gather(tree, group, drawings);
@@ -927,9 +929,9 @@ public final class AreaSetter {
             int leastCost = Integer.MAX_VALUE;
             for (int by = laid; by <= last; by++) {
                 if (by == ROWS) {
-                    rowBreaker.lay(items, plans[ROWS]);
+                    rowBreaker.lay();
                 } else if (by == CUTS) {
-                    cutter.lay(items, plans[CUTS]);
+                    cutter.lay();
                 } else {
                     laySlice(plans[SLICE]);
                 }
@@ -984,17 +986,24 @@ public final class AreaSetter {
     private static final class RowBreaker {
         private static final int ENDS = MOST_CHILDREN + 1;
 
+        private final Items items;
+        private final Plan plan;
         /** WORST of each ROW there could be. */
         private final int[] worst = new int[MOST_CHILDREN * ENDS];
         /** Of the ITEMS from one on the least WORST; the fewest ROWS with which the least WORST of all is kept. */
         private final int[] least = new int[ENDS];
         private final int[] fewest = new int[ENDS];
 
-        void lay(Items items, Plan plan) {
+        RowBreaker(Items itemsToLay, Plan target) {
+            items = itemsToLay;
+            plan = target;
+        }
+
+        void lay() {
             int many = items.many;
             for (int from = many - 1; from >= 0; from--) {
                 for (int to = from + 1; to <= many; to++) {
-                    worst[from * ENDS + to] = worstOfRow(items, from, to);
+                    worst[from * ENDS + to] = worstOfRow(from, to);
                 }
             }
             findLeast(many);
@@ -1003,12 +1012,12 @@ public final class AreaSetter {
             int from = 0;
             for (int row = 0; row < many && from < many; row++) {
                 int to = endOfRow(from, many);
-                layRow(items, plan, from, to);
+                layRow(from, to);
                 from = to;
             }
         }
 
-        private static int worstOfRow(Items items, int from, int to) {
+        private int worstOfRow(int from, int to) {
             int high = items.begin(to, items.high, 0, items.many) - items.begin(from, items.high, 0, items.many);
             int found = 0;
             int left = 0;
@@ -1053,7 +1062,7 @@ public final class AreaSetter {
             return from + 1;
         }
 
-        private static void layRow(Items items, Plan plan, int from, int to) {
+        private void layRow(int from, int to) {
             int top = items.begin(from, items.high, 0, items.many);
             int high = items.begin(to, items.high, 0, items.many) - top;
             for (int i = from; i < to; i++) {
@@ -1066,12 +1075,15 @@ public final class AreaSetter {
 
     /** Lays by the best cuts. Some ITEMS are told by their first one and the one behind their last. */
     private static final class Cutter {
-        private Items items;
-        private Plan plan;
+        private final Items items;
+        private final Plan plan;
 
-        void lay(Items itemsToLay, Plan target) {
+        Cutter(Items itemsToLay, Plan target) {
             items = itemsToLay;
             plan = target;
+        }
+
+        void lay() {
             plan.worst = 0;
             layPart(0, items.many, items.x, items.y, items.wide, items.high);
         }
