@@ -36,8 +36,8 @@ public final class AreaSetter {
     private static final int NAME_HIGH = 10;
     private static final int REST_MARK = 100;
 
-    private final Tape tape = new Tape();
-    private final Reader reader = new Reader(tape);
+    private final Reader reader = new Reader();
+    private final Tape tape = reader.tape;
     private final Changes changes = new Changes();
     private final Drawings drawings = new Drawings();
     private final Layer layer = new Layer();
@@ -430,7 +430,7 @@ public final class AreaSetter {
         }
     }
 
-    /** Reads the TEXT on the TAPE, TOKEN by TOKEN, up to its end or its first FAULT. */
+    /** The TAPE, and how the TEXT on it is read: TOKEN by TOKEN, up to its end or its first FAULT. */
     private static final class Reader {
         static final int NO_FAULT = 0;
         private static final int NOT_TEXT = 1;
@@ -448,21 +448,17 @@ public final class AreaSetter {
         private static final int WORD = 'a';
         private static final int NUMBER = '0';
 
-        /** The place of the latest FAULT; NONE without one. */
-        int faultAt = NONE;
+        final Tape tape = new Tape();
         /** Where a TEXT is read to: not the TREE there is, as one with a FAULT changes nothing. */
         Tree tree = new Tree();
-        private final Tape tape;
+        /** The place of the latest FAULT; NONE without one. */
+        int faultAt = NONE;
         private int due;
         /** The GROUP whose CHILDREN are being read. */
         private int within;
         private int kind;
         private int from;
         private int to;
-
-        Reader(Tape tapeToRead) {
-            tape = tapeToRead;
-        }
 
         int read() {
             tree.boxes = 0;
@@ -890,10 +886,10 @@ public final class AreaSetter {
         /** PRICE: what it costs to move. */
         int moveCost = 0;
         private final Items items = new Items();
+        private final RowBreaker rowBreaker = new RowBreaker();
+        private final Cutter cutter = new Cutter();
         /** One for each of slice, rows, cuts. */
-        private final Plan[] plans = {new Plan(), new Plan(), new Plan()};
-        private final RowBreaker rowBreaker = new RowBreaker(items, plans[ROWS]);
-        private final Cutter cutter = new Cutter(items, plans[CUTS]);
+        private final Plan[] plans = {new Plan(), rowBreaker.plan, cutter.plan};
 
         void layGroup(Tree tree, int group, Drawings drawings) {
             items.gather(tree, group, drawings);
@@ -929,9 +925,9 @@ public final class AreaSetter {
             int leastCost = Integer.MAX_VALUE;
             for (int by = laid; by <= last; by++) {
                 if (by == ROWS) {
-                    rowBreaker.lay();
+                    rowBreaker.lay(items);
                 } else if (by == CUTS) {
-                    cutter.lay();
+                    cutter.lay(items);
                 } else {
                     laySlice(plans[SLICE]);
                 }
@@ -986,24 +982,18 @@ public final class AreaSetter {
     private static final class RowBreaker {
         private static final int ENDS = MOST_CHILDREN + 1;
 
-        private final Items items;
-        private final Plan plan;
+        final Plan plan = new Plan();
         /** WORST of each ROW there could be. */
         private final int[] worst = new int[MOST_CHILDREN * ENDS];
         /** Of the ITEMS from one on the least WORST; the fewest ROWS with which the least WORST of all is kept. */
         private final int[] least = new int[ENDS];
         private final int[] fewest = new int[ENDS];
 
-        RowBreaker(Items itemsToLay, Plan target) {
-            items = itemsToLay;
-            plan = target;
-        }
-
-        void lay() {
+        void lay(Items items) {
             int many = items.many;
             for (int from = many - 1; from >= 0; from--) {
                 for (int to = from + 1; to <= many; to++) {
-                    worst[from * ENDS + to] = worstOfRow(from, to);
+                    worst[from * ENDS + to] = worstOfRow(items, from, to);
                 }
             }
             findLeast(many);
@@ -1012,12 +1002,12 @@ public final class AreaSetter {
             int from = 0;
             for (int row = 0; row < many && from < many; row++) {
                 int to = endOfRow(from, many);
-                layRow(from, to);
+                layRow(items, from, to);
                 from = to;
             }
         }
 
-        private int worstOfRow(int from, int to) {
+        private static int worstOfRow(Items items, int from, int to) {
             int high = items.begin(to, items.high, 0, items.many) - items.begin(from, items.high, 0, items.many);
             int found = 0;
             int left = 0;
@@ -1062,7 +1052,7 @@ public final class AreaSetter {
             return from + 1;
         }
 
-        private void layRow(int from, int to) {
+        private void layRow(Items items, int from, int to) {
             int top = items.begin(from, items.high, 0, items.many);
             int high = items.begin(to, items.high, 0, items.many) - top;
             for (int i = from; i < to; i++) {
@@ -1075,20 +1065,14 @@ public final class AreaSetter {
 
     /** Lays by the best cuts. Some ITEMS are told by their first one and the one behind their last. */
     private static final class Cutter {
-        private final Items items;
-        private final Plan plan;
+        final Plan plan = new Plan();
 
-        Cutter(Items itemsToLay, Plan target) {
-            items = itemsToLay;
-            plan = target;
-        }
-
-        void lay() {
+        void lay(Items items) {
             plan.worst = 0;
-            layPart(0, items.many, items.x, items.y, items.wide, items.high);
+            layPart(items, 0, items.many, items.x, items.y, items.wide, items.high);
         }
 
-        private void layPart(int from, int to, int x, int y, int wide, int high) {
+        private void layPart(Items items, int from, int to, int x, int y, int wide, int high) {
             if (to - from <= 1) {
                 plan.put(items, from, x, y, wide, high);
                 return;
@@ -1097,13 +1081,13 @@ public final class AreaSetter {
             int chosen = from + 1;
             boolean isDown = false;
             for (int middle = from + 1; middle < to; middle++) {
-                int across = worstOfCut(from, middle, to, wide, high, least);
+                int across = worstOfCut(items, from, middle, to, wide, high, least);
                 if (across < least) {
                     least = across;
                     chosen = middle;
                     isDown = false;
                 }
-                int down = worstOfCut(from, middle, to, high, wide, least);
+                int down = worstOfCut(items, from, middle, to, high, wide, least);
                 if (down < least) {
                     least = down;
                     chosen = middle;
@@ -1112,31 +1096,31 @@ public final class AreaSetter {
             }
             int first = share(isDown ? high : wide, items.sum(from, chosen), items.sum(from, to));
             if (isDown) {
-                layPart(from, chosen, x, y, wide, first);
-                layPart(chosen, to, x, y + first, wide, high - first);
+                layPart(items, from, chosen, x, y, wide, first);
+                layPart(items, chosen, to, x, y + first, wide, high - first);
             } else {
-                layPart(from, chosen, x, y, first, high);
-                layPart(chosen, to, x + first, y, wide - first, high);
+                layPart(items, from, chosen, x, y, first, high);
+                layPart(items, chosen, to, x + first, y, wide - first, high);
             }
         }
 
         /** The least WORST with a cut of one side; some number not below the bound if it isn't below that. */
-        private int worstOfCut(int from, int middle, int to, int side, int other, int bound) {
+        private static int worstOfCut(Items items, int from, int middle, int to, int side, int other, int bound) {
             int first = share(side, items.sum(from, middle), items.sum(from, to));
             // the fewer ITEMS first: they tell the soonest that it's no use
             boolean firstOnes = middle - from <= to - middle;
-            int one = firstOnes ? leastWorst(from, middle, first, other, bound)
-                    : leastWorst(middle, to, side - first, other, bound);
+            int one = firstOnes ? leastWorst(items, from, middle, first, other, bound)
+                    : leastWorst(items, middle, to, side - first, other, bound);
             if (one >= bound) {
                 return one;
             }
-            int two = firstOnes ? leastWorst(middle, to, side - first, other, bound)
-                    : leastWorst(from, middle, first, other, bound);
+            int two = firstOnes ? leastWorst(items, middle, to, side - first, other, bound)
+                    : leastWorst(items, from, middle, first, other, bound);
             return Math.max(one, two);
         }
 
         /** The least WORST of all cuts; some number not below the bound if it isn't below that. */
-        private int leastWorst(int from, int to, int wide, int high, int bound) {
+        private static int leastWorst(Items items, int from, int to, int wide, int high, int bound) {
             if (to - from <= 1) {
                 return shapeOf(items.sizes[from], wide, high);
             }
@@ -1148,8 +1132,8 @@ public final class AreaSetter {
             }
             int least = bound;
             for (int middle = from + 1; middle < to; middle++) {
-                least = Math.min(least, worstOfCut(from, middle, to, wide, high, least));
-                least = Math.min(least, worstOfCut(from, middle, to, high, wide, least));
+                least = Math.min(least, worstOfCut(items, from, middle, to, wide, high, least));
+                least = Math.min(least, worstOfCut(items, from, middle, to, high, wide, least));
             }
             return least;
         }
