@@ -3,15 +3,12 @@ import java.lang.reflect.Constructor;
 import java.lang.reflect.Field;
 import java.lang.reflect.Method;
 import java.lang.reflect.Modifier;
-import java.nio.file.Files;
 import java.nio.file.Path;
 import java.util.Arrays;
 import java.util.Set;
 import java.util.TreeSet;
-import java.util.regex.Matcher;
-import java.util.regex.Pattern;
 
-/** The face, and those rules of LANGUAGE.md that can be seen in the source by its words. */
+/** The face as it is compiled, and the rules of LANGUAGE.md by way of Rules. */
 public final class LanguageTests {
     private static final Set<String> FACE = new TreeSet<>(Arrays.asList("boolean sheet(int, int)",
             "boolean price(int)", "int feed(int, int, int, int, int)", "int end(int)", "int tree()", "int place()",
@@ -19,31 +16,14 @@ public final class LanguageTests {
             "int restOf(int, int)", "int under(int, int)", "int letters(int)", "int moved(int)",
             "int past(int, int, int) throws java.util.NoSuchElementException", "int about(int, int)",
             "int letter(int, int)", "int named()", "int sizeIn(int, int)", "int count(int)"));
-    private static final String[] NEVER = {"->", "::", "\\bcatch\\b", "\\btry\\b", "\\bfinally\\b", "\\bassert\\b",
-        "\\bsynchronized\\b", "Exact\\s*\\(", "\\bString\\s*\\.", "\\bSystem\\s*\\.(?!arraycopy)", "\\bObject\\b",
-        "\\bpackage\\b", "\\bprotected\\b", "\\bstatic\\s*\\{", "\\bwhile\\s*\\(\\s*true", "\\bfor\\s*\\(\\s*;",
-        "\\btoString\\b", "\\bhashCode\\b", "\\bdouble\\b", "\\bfloat\\b"};
-
     private static int wrong = 0;
 
     public static void main(String[] args) throws IOException {
         Path source = Path.of(args.length > 0 ? args[0] : "src/main/java/AreaSetter.java");
         face();
-        String code = withoutComments(Files.readString(source));
-        for (String never : NEVER) {
-            Matcher m = Pattern.compile(never).matcher(code);
-            hold("the source has " + never, !m.find());
+        for (String broken : Rules.brokenBy(source)) {
+            hold(broken, false);
         }
-        Matcher imports = Pattern.compile("import ([^;]*);").matcher(code);
-        while (imports.find()) {
-            hold("import " + imports.group(1), imports.group(1).equals("java.util.NoSuchElementException"));
-        }
-        Matcher thrown = Pattern.compile("throw new (\\w+)").matcher(code);
-        while (thrown.find()) {
-            hold("throw " + thrown.group(1), thrown.group(1).equals("NoSuchElementException"));
-        }
-        methods(code);
-        hold("only signs 1 to 127", code.chars().allMatch(c -> c > 0 && c < 128));
         System.out.println("LanguageTests: " + wrong + " not as due");
         if (wrong > 0) {
             System.exit(1);
@@ -77,46 +57,10 @@ public final class LanguageTests {
         }
         Set<String> names = new TreeSet<>();
         FACE.forEach(m -> names.add(m.replaceAll("\\(.*", "").replaceAll(".* ", "")));
-        Class<?>[] inside = c.getDeclaredClasses();
-        hold("some twelve classes", inside.length < 12);
-        for (Class<?> i : inside) {
-            inside(i, names);
-        }
-    }
-
-    private static void inside(Class<?> i, Set<String> names) {
-        hold(i + " is static", Modifier.isStatic(i.getModifiers()) && !Modifier.isPublic(i.getModifiers()));
-        int fields = 0;
-        for (Field f : i.getDeclaredFields()) {
-            boolean isStatic = Modifier.isStatic(f.getModifiers());
-            hold("static " + f.getName(), !isStatic || Modifier.isFinal(f.getModifiers()));
-            fields += isStatic ? 0 : 1;
-        }
-        hold("some twenty fields in " + i, fields <= 20);
-        for (Method m : i.getDeclaredMethods()) {
-            hold("a name of the face for " + m, !names.contains(m.getName()));
-            hold("seven parameters of " + m, m.getParameterCount() <= 7);
-        }
-    }
-
-    private static void methods(String code) {
-        String[] lines = code.split("\n", -1);
-        for (int i = 0; i < lines.length; i++) {
-            if (!lines[i].matches("( {4}| {8})\\S.*\\{") || lines[i].contains(" class ")) {
-                continue;
+        for (Class<?> inside : c.getDeclaredClasses()) {
+            for (Method m : inside.getDeclaredMethods()) {
+                hold("a name of the face for " + m, !names.contains(m.getName()));
             }
-            String closing = lines[i].replaceAll("\\S.*", "") + "}";
-            int end = i;
-            while (end < lines.length && !lines[end].equals(closing)) {
-                end++;
-            }
-            hold("sixty lines from line " + (i + 1), end - i <= 60);
         }
-    }
-
-    /** Comments are blanked, their lines stay. */
-    private static String withoutComments(String code) {
-        return Pattern.compile("/\\*.*?\\*/|//[^\n]*", Pattern.DOTALL).matcher(code)
-                .replaceAll(m -> m.group().replaceAll("[^\n]", " "));
     }
 }
