@@ -169,12 +169,12 @@ final class Rules extends TreePathScanner<Void, Void> {
         return "";
     }
 
-    private static boolean isConstant(Tree tree, Trees trees, TreePath path) {
-        if (tree instanceof LiteralTree) {
-            return true;
+    /** The value of a constant; null for all else. */
+    private Object constantOf(Tree tree) {
+        if (tree instanceof LiteralTree literal) {
+            return literal.getValue();
         }
-        return trees.getElement(new TreePath(path, tree)) instanceof VariableElement variable
-                && variable.getConstantValue() != null;
+        return elementOf(tree) instanceof VariableElement variable ? variable.getConstantValue() : null;
     }
 
     @Override
@@ -267,7 +267,7 @@ final class Rules extends TreePathScanner<Void, Void> {
         if (tree instanceof BinaryTree both) {
             return isConstantSum(both.getLeftOperand()) && isConstantSum(both.getRightOperand());
         }
-        return isConstant(tree, trees, getCurrentPath());
+        return constantOf(tree) != null;
     }
 
     @Override
@@ -319,8 +319,8 @@ final class Rules extends TreePathScanner<Void, Void> {
 
     /** A constant, or what stands behind 'divisor <= 0 ? .. :'. */
     private boolean isSafeDivisor(ExpressionTree divisor) {
-        if (isConstant(divisor, trees, getCurrentPath())) {
-            return !divisor.toString().equals("0");
+        if (constantOf(divisor) != null) {
+            return !constantOf(divisor).toString().equals("0");
         }
         Tree below = getCurrentPath().getLeaf();
         for (TreePath at = getCurrentPath().getParentPath(); at != null; at = at.getParentPath()) {
@@ -352,7 +352,9 @@ final class Rules extends TreePathScanner<Void, Void> {
         Tree.Kind kind = tree.getKind();
         hold(kind != Tree.Kind.NULL_LITERAL, "a null", tree);
         hold(kind != Tree.Kind.DOUBLE_LITERAL && kind != Tree.Kind.FLOAT_LITERAL, "no whole number", tree);
-        hold(tree.toString().chars().allMatch(c -> c > 0 && c < 128), "rule 4: signs 1 to 127", tree);
+        // the value, as the tree's own text has other signs escaped
+        boolean isText = kind == Tree.Kind.STRING_LITERAL || kind == Tree.Kind.CHAR_LITERAL;
+        hold(!isText || tree.getValue().toString().chars().allMatch(c -> c > 0 && c < 128), "rule 4: signs 1 to 127", tree);
         return super.visitLiteral(tree, none);
     }
 
